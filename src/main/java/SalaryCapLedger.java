@@ -521,6 +521,10 @@ public final class SalaryCapLedger {
         return books.salariesNow(coming) <= limit;
     }
 
+    private boolean swapMatches(int charged, int player, int otherCharged, int rival) {
+        return salariesMatch(charged, 1 << player, 1 << rival) && salariesMatch(otherCharged, 1 << rival, 1 << player);
+    }
+
     public int swapCount(int team, int other) throws IllegalStateException, IllegalArgumentException {
         requireLeague();
         requireTwoTeams(team, other);
@@ -529,9 +533,7 @@ public final class SalaryCapLedger {
         int count = 0;
         for (int player = 0; player < terms.playerCount; player++) {
             for (int rival = 0; books.playsFor(player, team) && rival < terms.playerCount; rival++) {
-                if (books.playsFor(rival, other)
-                        && salariesMatch(charged, 1 << player, 1 << rival)
-                        && salariesMatch(otherCharged, 1 << rival, 1 << player)) {
+                if (books.playsFor(rival, other) && swapMatches(charged, player, otherCharged, rival)) {
                     count++;
                 }
             }
@@ -548,9 +550,7 @@ public final class SalaryCapLedger {
         long leastTaxes = 0;
         for (int player = 0; player < terms.playerCount; player++) {
             for (int rival = 0; books.playsFor(player, team) && rival < terms.playerCount; rival++) {
-                if (books.playsFor(rival, other)
-                        && salariesMatch(charged, 1 << player, 1 << rival)
-                        && salariesMatch(otherCharged, 1 << rival, 1 << player)) {
+                if (books.playsFor(rival, other) && swapMatches(charged, player, otherCharged, rival)) {
                     long taxes = taxOn(team, charged + books.chargeChange(1 << player, 1 << rival))
                             + taxOn(other, otherCharged + books.chargeChange(1 << rival, 1 << player));
                     if (best < 0 || taxes < leastTaxes) {

@@ -91,6 +91,9 @@ public final class AgreementTest {
             compare(seed, "append", words);
         }
         compare(seed, "truncate", new Object[] {Math.min(900, text.length())});
+        if (random.nextInt(6) == 0) {
+            compare(seed, "truncate", new Object[] {random.nextInt(text.length() + 1)});
+        }
         compare(seed, "load", new Object[0]);
         compare(seed, "errorPosition", new Object[0]);
     }

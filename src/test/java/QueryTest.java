@@ -369,6 +369,36 @@ public final class QueryTest {
         SalaryCapLedger later = Check.league("league 40 100 0 0 1;bracket 1 1;teams 1;players 6;"
                 + "contract 1 0 30 0 3 9 0;contract 3 0 30 0 1 0 0;contract 5 0 30 0 1 0 0;");
         CHECK.is("without the bonus", 40, () -> later.releaseSet(0));
+        releaseLater();
+        releaseAll();
+    }
+
+    /** In year 1 the shares of player 0 are 20 + 20, those of player 1, who was signed then, 10 + 10 + 10. */
+    private static void releaseLater() {
+        SalaryCapLedger x = Check.league("league 100 100 0 0 1;bracket 1 1;teams 1;players 3;"
+                + "contract 0 0 20 0 3 60 0;contract 2 0 15 0 3 0 0;");
+        x.nextYear();
+        x.makeOffer(30, 0, 3, 30, 0);
+        CHECK.is("signed later", 95, () -> x.sign(0, 1, 0));
+        x.makeOffer(1, 0, 1, 0, 0);
+        CHECK.is("no release is needed", 0, () -> x.releaseSet(0));
+        SalaryCapLedger y = Check.league("league 90 100 0 95 1;bracket 1 1;teams 1;players 3;"
+                + "contract 0 0 40 0 3 27 0;contract 1 0 2 0 3 0 2;");
+        y.nextYear();
+        y.makeOffer(41, 0, 3, 21, 0);
+        CHECK.is("signed above the room", 40 + 9 + 2 + 41 + 7, () -> y.sign(0, 2, 1));
+        CHECK.is("9 too much", 1, () -> y.fewestReleases(0));
+        CHECK.is("18 of dead money are less than 21", 1, () -> y.releaseSet(0));
+    }
+
+    private static void releaseAll() {
+        StringBuilder text = new StringBuilder("league 1 1 0 0 1;bracket 1 1;teams 2;players 24;");
+        for (int k = 0; k < 12; k++) {
+            text.append("contract ").append(2 * k + 1).append(" 1 ").append(k + 2).append(" 0 1 0 0;");
+        }
+        SalaryCapLedger x = Check.league(text.toString());
+        CHECK.is("all of twelve", 12, () -> x.fewestReleases(1));
+        CHECK.is("the whole roster", 0xaaaaaa, () -> x.releaseSet(1));
     }
 
     private static void swaps() {

@@ -14,6 +14,7 @@ public final class TextTest {
         wrongNumbers();
         fifthBracket();
         takenPlaces();
+        cutTexts();
         CHECK.finish("TextTest");
     }
 
@@ -22,15 +23,28 @@ public final class TextTest {
         CHECK.is("a new buffer is empty", 0, () -> x.truncate(0));
         CHECK.illegal("a new buffer is empty", () -> x.truncate(1));
         CHECK.is("no load yet", SalaryCapLedger.NONE, () -> x.errorPosition());
-        CHECK.refuses("no league: cap", IllegalStateException.class, () -> x.cap(-1));
-        CHECK.refuses("no league: makeOffer", IllegalStateException.class, () -> x.makeOffer(0, -1, 9, 0, 0));
-        CHECK.refuses("no league: sign", IllegalStateException.class, () -> x.sign(-1, 99, 4));
-        CHECK.refuses("no league: trade", IllegalStateException.class, () -> x.trade(0, 0, 0, 0));
-        CHECK.refuses("no league: playerRank", IllegalStateException.class, () -> x.playerRank(-1));
-        CHECK.refuses("no league: teamRank", IllegalStateException.class, () -> x.teamRank(9, -1));
-        CHECK.refuses("no league: meanSalary", IllegalStateException.class, () -> x.meanSalary(9));
-        CHECK.refuses("no league: nextYear", IllegalStateException.class, () -> x.nextYear());
-        CHECK.refuses("no league: undo", IllegalStateException.class, () -> x.undo());
+        withoutLeague(x);
+        x.append(0, 0, 0, 0, 0);
+        x.load();
+        withoutLeague(x);
+    }
+
+    /** The league is asked for first: the arguments are out of their ranges, too. */
+    private static void withoutLeague(SalaryCapLedger x) {
+        Check.Call[] calls = {
+            () -> x.makeOffer(0, -1, 9, 0, 0), () -> x.sign(-1, 99, 4), () -> x.release(-1, true),
+            () -> x.trade(0, 0, 0, 0), () -> x.nextYear(), () -> x.year(), () -> x.cap(-1), () -> x.taxLine(12),
+            () -> x.offer(5), () -> x.charge(-1, 0), () -> x.deadMoney(0, -1), () -> x.room(4), () -> x.tax(-1),
+            () -> x.paid(-1), () -> x.taxedYears(-1), () -> x.midLevel(-1), () -> x.roster(-1),
+            () -> x.teamRank(9, -1), () -> x.playerValue(0, 7), () -> x.salary(-1, 0), () -> x.share(-1, 0),
+            () -> x.playerRank(-1), () -> x.meanSalary(9), () -> x.signCode(-1, 0, 0), () -> x.bestRule(-1, 0),
+            () -> x.greatestBase(0, 0, 4), () -> x.releaseCost(0, true, 12), () -> x.releaseGain(-1, true),
+            () -> x.fewestReleases(-1), () -> x.releaseSet(-1), () -> x.tradeCode(0, 0, 0, 0),
+            () -> x.swapCount(0, 0), () -> x.bestSwap(0, 0), () -> x.taxAhead(0, 0), () -> x.undo()
+        };
+        for (int k = 0; k < calls.length; k++) {
+            CHECK.refuses("without a league: call " + k, IllegalStateException.class, calls[k]);
+        }
     }
 
     private static void append() {
@@ -111,6 +125,12 @@ public final class TextTest {
         wrong(1, 0, "@league 1");
         wrong(1, 1, " leagues 100");
         wrong(1, 0, "leagu 100");
+        wrong(1, 0, "leaguez 100");
+        wrong(1, 0, "aleague 100");
+        wrong(1, 6, "league` 100");
+        wrong(1, 6, "league{ 100");
+        wrong(1, 7, "league /1");
+        wrong(1, 7, "league :1");
         wrong(1, 0, "Xleague 100");
         wrong(1, 6, "leagueX 100");
         wrong(1, 6, "league\t100");
@@ -178,6 +198,26 @@ public final class TextTest {
         wrong(4, full.length() + 12, full + "contract 12 0 1 0 1 0 0;");
         wrong(4, full.length() + 9, full + "contract 11 0 1 0 1 0 0;");
         correct(13, full + "contract 12 1 1 0 1 0 0;");
+    }
+
+    /** What was cut off is still in the buffer's bytes, but no part of the text. */
+    private static void cutTexts() {
+        cut(1, HEAD.length() - 2, 2);
+        cut(1, HEAD.length() - 3, 3);
+        cut(1, 0, HEAD.length() - 5);
+        cut(1, HEAD.length() - 1, 1);
+        SalaryCapLedger x = new SalaryCapLedger();
+        Check.feed(x, HEAD + "contract 0 0 1 0 1 0 0;");
+        x.truncate(HEAD.length());
+        CHECK.is("a text in front of what was cut off", 0, () -> x.load());
+    }
+
+    private static void cut(int code, int position, int bytes) {
+        SalaryCapLedger x = new SalaryCapLedger();
+        Check.feed(x, HEAD);
+        x.truncate(HEAD.length() - bytes);
+        CHECK.is("load without the last " + bytes, -10 - code, () -> x.load());
+        CHECK.is("errorPosition without the last " + bytes, position, () -> x.errorPosition());
     }
 
     private static String twelve() {
