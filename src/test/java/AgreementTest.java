@@ -7,7 +7,8 @@ import java.util.Random;
 /** Runs of calls, drawn from fixed seeds, whose every answer is compared with that of PlainLedger. */
 public final class AgreementTest {
     private static final int RUNS = 1200;
-    private static final int CALLS = 400;
+    /** A new text takes some 50 calls, and an object is used for at most 512. */
+    private static final int CALLS = 450;
 
     /**
      * Each method with a letter for each argument: t team, p player, a years ahead, w kind, f place,
@@ -30,6 +31,7 @@ public final class AgreementTest {
     private final SalaryCapLedger ledger = new SalaryCapLedger();
     private final PlainLedger plain = new PlainLedger();
     private static final Map<String, Method[]> METHODS = new HashMap<>();
+    private int calls = 0;
     private int scale = 100;
     private int yearsRarely = 10;
 
@@ -60,7 +62,7 @@ public final class AgreementTest {
     }
 
     private void run(long seed) {
-        for (int k = 0; k < CALLS && !check.hasFailed(); k++) {
+        for (int k = 0; calls < CALLS && !check.hasFailed(); k++) {
             int die = random.nextInt(100);
             if (k == 3 || k == 5 || random.nextInt(200) == 0) {
                 loadText(seed);
@@ -245,6 +247,7 @@ public final class AgreementTest {
     }
 
     private void compare(long seed, String name, Object[] arguments) {
+        calls++;
         Method[] both = METHODS.get(name);
         StringBuilder what = new StringBuilder("seed " + seed + ": " + name);
         for (Object argument : arguments) {

@@ -17,6 +17,19 @@ final class Check {
         outcome(what, due.getName(), outcomeOf(call));
     }
 
+    /** Of two long texts only the places where they part are of use. */
+    void same(String what, String due, String got) {
+        int from = 0;
+        while (from < due.length() && from < got.length() && due.charAt(from) == got.charAt(from)) {
+            from++;
+        }
+        outcome(what, around(due, from), around(got, from));
+    }
+
+    private static String around(String text, int place) {
+        return text.substring(Math.max(0, place - 40), Math.min(text.length(), place + 20)) + "(" + text.length() + ")";
+    }
+
     void illegal(String what, Call call) {
         refuses(what, IllegalArgumentException.class, call);
     }
@@ -42,7 +55,7 @@ final class Check {
         }
     }
 
-    private static String outcomeOf(Call call) {
+    static String outcomeOf(Call call) {
         try {
             return String.valueOf(call.answer());
         } catch (RuntimeException thrown) {
@@ -65,6 +78,11 @@ final class Check {
             word = word << 8 | (k < text.length() ? text.charAt(k) & 255 : 0);
         }
         return word;
+    }
+
+    /** How often league() calls the ledger that it makes. */
+    static int callsOfLeague(String text) {
+        return (text.length() + 19) / 20 + 2;
     }
 
     static SalaryCapLedger league(String text) {
