@@ -32,13 +32,14 @@ public final class FaceTest {
         List<String> due = new ArrayList<>();
         for (String line : Files.readAllLines(DOCUMENT)) {
             if (line.startsWith("    public ") && line.endsWith(";")) {
-                due.add(line.strip().replaceAll("( throws .*)?;$", ""));
+                due.add(line.strip());
             }
         }
         String text = Files.readString(SOURCE).replaceAll("\\s+", " ");
         CHECK.is("lines of the face", 41, () -> due.size());
         for (String line : due) {
-            CHECK.outcome(line, "there", text.contains(line) ? "there" : "missing");
+            String written = line.contains("(") ? line.replaceAll(";$", " {") : line;
+            CHECK.outcome(line, "there", text.contains(written) ? "there" : "missing");
         }
         long open = Arrays.stream(SalaryCapLedger.class.getDeclaredMethods())
                 .filter(method -> Modifier.isPublic(method.getModifiers())).count();
